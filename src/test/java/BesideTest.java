@@ -75,6 +75,16 @@ public final class BesideTest {
         y.stall(0, 0);
         y.stall(0, 6);
         c.due("meet() of two that go alike", y.meet(0, 1), Check.NONE);
+        // The lazy ones sell one a stay of six hours and more at 11, where the first sells out and the other comes by.
+        MovingMarket z = Check.quiet();
+        z.visits(11, 1);
+        z.stall(4, 2);
+        z.stall(4, 5);
+        z.change(0, 2, 3);
+        z.change(1, 2, 7);
+        c.due("meet() behind 97", z.meet(0, 1), Check.NONE);
+        z.hours(1);
+        c.due("meet() behind 96", z.meet(0, 1), 96);
     }
 
     private static void never() {

@@ -171,6 +171,14 @@ public final class HoursTest {
         z.change(0, 2, 0);
         z.change(1, 2, 4);
         c.due("again() asks for all", z.again(), Check.NONE);
+        MovingMarket last = Check.quiet();
+        last.visits(7, 1);
+        last.stall(0, 4);
+        last.stall(2, 11);
+        last.change(0, 2, 9);
+        last.change(1, 2, 9);
+        last.hours(3);
+        c.due("again() behind 96", last.again(), 96);
     }
 
     private static void there() {

@@ -117,6 +117,16 @@ public final class TextsTest {
         fault("stalls at 3", 0);
         fault("stal at 3", 0);
         fault(" Stall at 3", 1);
+        fault("ttall at 3", 0);
+        fault("stale at 3", 0);
+        fault("lazier at 3", 0);
+        fault("bingle at 3", 0);
+        fault("stall it 3", 6);
+        fault("stall at 3 foods 3", 11);
+        fault("visits 3 so 4 are 3", 9);
+        fault("visits 3 ere 3", 9);
+        fault("run 3", 0);
+        fault("sprint 3", 0);
         fault("stall", 5);
         fault("stall ;", 6);
         fault("stall 3", 6);
