@@ -872,16 +872,17 @@ public final class MovingMarket {
         }
 
         int offerAt(int kind, int place) {
-            int plain = visitsAt[place];
-            int twofold = plain + visitsAt[(place + 1) % PLACES];
-            int half = plain / 2;
             switch (kind) {
-                case DOUBLE: return twofold;
-                case SHADED: return shadeAt[place] == 1 ? twofold : 0;
-                case BLIND: return half;
-                case CHEESE: return place == springAt ? 3 * half : half;
-                default: return plain;
+                case DOUBLE: return twofoldVisits(place);
+                case SHADED: return shadeAt[place] == 1 ? twofoldVisits(place) : 0;
+                case BLIND: return visitsAt[place] / 2;
+                case CHEESE: return visitsAt[place] / 2 * (place == springAt ? 3 : 1);
+                default: return visitsAt[place];
             }
+        }
+
+        private int twofoldVisits(int place) {
+            return visitsAt[place] + visitsAt[(place + 1) % PLACES];
         }
 
         void exchange(int one, int other) {
