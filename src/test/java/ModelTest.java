@@ -6,8 +6,10 @@ import java.util.Random;
 /** Long runs of calls by lot (always the same ones) on the class and on the model: they answer alike. */
 public final class ModelTest {
     private static final Check c = new Check();
-    private static final int RUNS = 400;
+    private static final int RUNS = 500;
+    /** What comes later than the 512th call of an object is free. */
     private static final int CALLS = 512;
+    private static final int MOST_OF_A_ROUND = 64;
     private static final int[] WILD = {Integer.MIN_VALUE, Integer.MAX_VALUE, Integer.MIN_VALUE + 1, Integer.MAX_VALUE - 1, -1, 999, 1000, -1000001};
     private static final String[] SCRAPS = {
         "stall", "double", "idle", "shaded", "lazy", "blind", "cheese", "at", "goods", "visits", "to", "are", "shade",
@@ -16,6 +18,7 @@ public final class ModelTest {
     private static MovingMarket market;
     private static Model model;
     private static int run;
+    private static int calls;
 
     public static void main(String[] args) throws ReflectiveOperationException {
         Method[] acts = Arrays.stream(MovingMarket.class.getDeclaredMethods())
@@ -25,8 +28,10 @@ public final class ModelTest {
             Random lot = new Random(run);
             market = new MovingMarket();
             model = new Model();
+            calls = 0;
             begin(lot);
-            for (int k = 40; k < CALLS; k++) {
+            // A round makes several calls at times.
+            while (calls < CALLS - MOST_OF_A_ROUND) {
                 Method act = acts[lot.nextInt(acts.length)];
                 if (act.getName().equals("text") && lot.nextInt(4) > 0) {
                     text(lot);
@@ -36,6 +41,7 @@ public final class ModelTest {
                     call(act, arguments(act, lot));
                 }
             }
+            c.holds("run " + run + " has at most 512 calls", calls <= CALLS);
         }
         c.end();
     }
@@ -49,6 +55,7 @@ public final class ModelTest {
         for (int i = 0; i < a.length; i++) {
             given[i] = act.getParameterTypes()[i] == boolean.class ? (Object) (a[i] != 0) : (Object) a[i];
         }
+        calls++;
         int got = (int) act.invoke(market, given);
         c.due("run " + run + ": " + act.getName() + Arrays.toString(a), got, model.call(act.getName(), a));
     }
@@ -121,8 +128,15 @@ public final class ModelTest {
             text = new StringBuilder(text.toString().replace(" ", ""));
         }
         call("wipe");
-        for (int i = 0; i < text.length(); i++) {
-            call("feed", text.charAt(i) | lot.nextInt() << 8, 1);
+        int at = 0;
+        while (at < text.length()) {
+            int n = Math.min(text.length() - at, 2 + lot.nextInt(3));
+            int bytes = lot.nextInt();
+            for (int i = 0; i < n; i++) {
+                bytes = bytes << 8 | text.charAt(at + i);
+            }
+            call("feed", bytes, n);
+            at += n;
         }
         call("text");
     }
@@ -148,6 +162,7 @@ public final class ModelTest {
             for (int i = 0; i < length; i++) {
                 int stall = i < 12 ? market.there(i, n) : -1;
                 if (i < 12) {
+                    calls++;
                     model.call("there", i, n);
                 }
                 call("write", s, i, stall < -1 ? -1 : stall);

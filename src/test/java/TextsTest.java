@@ -226,15 +226,14 @@ public final class TextsTest {
         for (int k = 0; k < 20; k++) {
             text.append(k == 0 ? "" : ";").append("sun 3");
         }
-        MovingMarket x = new MovingMarket();
-        c.due("119 bytes", Check.read(x, text.toString()), 20);
-        Check.put(x, text + ";");
-        c.due("120 bytes that end too early", x.text(), -121);
-        Check.put(x, "a".repeat(120));
-        c.due("a long word", x.text(), -1);
-        Check.put(x, "spring " + "9".repeat(113));
-        c.due("a long number", x.text(), -8);
-        Check.put(x, " ".repeat(120));
-        c.due("blanks alone", x.text(), -121);
+        longText("119 bytes", text.toString(), 20);
+        longText("120 bytes that end too early", text + ";", -121);
+        longText("a long word", "a".repeat(120), -1);
+        longText("a long number", "spring " + "9".repeat(113), -8);
+        longText("blanks alone", " ".repeat(120), -121);
+    }
+
+    private static void longText(String what, String text, int want) {
+        c.due(what, Check.read(new MovingMarket(), text), want);
     }
 }
