@@ -891,7 +891,7 @@ public final class MovingMarket {
             whereIs[other] = place;
         }
 
-        /** A stall comes to a place; one that is there comes to its place. */
+        /** One that is there changes with it, as no two are ever at one place. */
         void bring(int stall, int place) {
             int before = stallAt(place);
             if (before >= 0) {
@@ -957,7 +957,7 @@ public final class MovingMarket {
             return places;
         }
 
-        /** How many places on sunwise the next one is that isn't taken. */
+        /** Eight stalls never take all places: the bound is there to show that it ends. */
         int stepsFrom(int place, int taken) {
             int steps = 1;
             while (steps < PLACES && (taken >> (place + steps) % PLACES & 1) == 1) {

@@ -10,7 +10,7 @@ import java.util.function.Supplier;
 
 /**
  * What the groups of edges share. A group's tests are its methods that are named by a promise and by its sentence:
- * p05FullIsTheNinthStall; p00 is of the terms.
+ * p05FullIsTheNinth; p00 is of the terms.
  */
 abstract class Edges {
     static final int BEYOND = -1000001;

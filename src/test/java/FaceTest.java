@@ -32,7 +32,9 @@ public final class FaceTest {
             int bits = inside.getModifiers();
             c.holds(inside + " is static and not public", Modifier.isStatic(bits) && !Modifier.isPublic(bits) && !Modifier.isProtected(bits));
             noPublicNames(inside);
+            fewFields(inside);
         }
+        fewFields(market);
         c.end();
     }
 
@@ -66,6 +68,20 @@ public final class FaceTest {
         for (Method method : inside.getDeclaredMethods()) {
             c.holds(method + " has a name of its own", !isPublicName(method.getName()));
         }
+    }
+
+    /** Beside its constants a class has some twenty fields; the constants are of few types. */
+    private static void fewFields(Class<?> any) {
+        int fields = 0;
+        for (Field field : any.getDeclaredFields()) {
+            if (Modifier.isStatic(field.getModifiers())) {
+                c.holds(field + " is final", Modifier.isFinal(field.getModifiers()));
+                c.holds(field + " is a constant or a row of them", Set.of(int.class, int[].class).contains(field.getType()));
+            } else {
+                fields++;
+            }
+        }
+        c.holds(any + " has " + fields + " fields", fields <= 20);
     }
 
     private static boolean isPublicName(String name) {

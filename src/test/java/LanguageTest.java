@@ -1,12 +1,17 @@
 import java.io.IOException;
 import java.nio.file.Files;
 import java.nio.file.Path;
+import java.util.Map;
+import java.util.TreeMap;
 import java.util.regex.Matcher;
 import java.util.regex.Pattern;
 
 /** The rules of LANGUAGE.md that can be seen from the words of the file. It is run in the project's directory. */
 public final class LanguageTest {
     private static final Check c = new Check();
+    private static final int MOST_DEEP = 8;
+    private static final Pattern HEAD =
+        Pattern.compile("^( {4}| {8})(?:(?:public|private|static|final) )*[\\w\\[\\]]+ (\\w+)\\(([^)]*)\\) \\{$");
 
     private static final String[] FORBIDDEN = {
         "throw", "throws", "try", "catch", "finally", "synchronized", "assert", "package", "instanceof\\s+\\w+\\s*\\(",
@@ -53,13 +58,13 @@ public final class LanguageTest {
         c.holds("at most twelve classes, but " + classes, classes <= 12);
     }
 
-    /** A method has at most sixty lines and seven parameters. */
+    /** A method has at most sixty lines and seven parameters; calls go at most eight deep. */
     private static void lengths(String bare) {
-        Pattern head = Pattern.compile("^( {4}| {8})(?:(?:public|private|static|final) )*[\\w\\[\\]]+ \\w+\\(([^)]*)\\) \\{$");
+        Map<String, StringBuilder> bodies = new TreeMap<>();
         String[] lines = bare.split("\n");
         int methods = 0;
         for (int i = 0; i < lines.length; i++) {
-            Matcher matcher = head.matcher(lines[i]);
+            Matcher matcher = HEAD.matcher(lines[i]);
             if (!matcher.find()) {
                 continue;
             }
@@ -69,8 +74,35 @@ public final class LanguageTest {
                 end++;
             }
             c.holds(lines[i] + " has " + (end - i + 1) + " lines", end - i + 1 <= 60);
-            c.holds(lines[i] + " has few parameters", matcher.group(2).split(",").length <= 7);
+            c.holds(lines[i] + " has few parameters", matcher.group(3).split(",").length <= 7);
+            // Methods of one name count as one, so that the depth is told too large rather than too small.
+            StringBuilder body = bodies.computeIfAbsent(matcher.group(2), name -> new StringBuilder());
+            for (int k = i + 1; k < end; k++) {
+                body.append(lines[k]).append('\n');
+            }
         }
         c.holds("methods are found", methods > 48);
+        int deepest = 0;
+        for (String name : bodies.keySet()) {
+            int depth = depth(name, bodies, 1);
+            c.holds(name + " goes " + depth + " calls deep", depth <= MOST_DEEP);
+            deepest = Math.max(deepest, depth);
+        }
+        c.holds("calls are found", deepest > 3);
+    }
+
+    /** How many calls stand open at once; more than are allowed, if one comes back to itself. */
+    private static int depth(String name, Map<String, StringBuilder> bodies, int above) {
+        if (above > MOST_DEEP) {
+            return 1;
+        }
+        int deepest = 0;
+        Matcher called = Pattern.compile("(?<!new )\\b(\\w+)\\(").matcher(bodies.get(name));
+        while (called.find()) {
+            if (bodies.containsKey(called.group(1))) {
+                deepest = Math.max(deepest, depth(called.group(1), bodies, above + 1));
+            }
+        }
+        return 1 + deepest;
     }
 }
